@@ -52,6 +52,7 @@ public final class BoundaryFlips {
         countTakesAKind();
         countNeedsAnEnd();
         countUpTo60();
+        countUnderChecks();
         kindsMakeUpAll();
         countOfNoTicks();
         allIsTheSum();
@@ -634,6 +635,40 @@ public final class BoundaryFlips {
         Due.due("a best would be the 63rd", mixed.best(1, 0), FULL);
         Due.due("60", mixed.count(0, 1, SILENT), 24);
         Due.due("61", mixed.count(0, 1, SILENT), FULL);
+        sixtieth("all()", x -> x.all(1), 48);
+        sixtieth("worst()", x -> x.worst(1, 0), 0);
+        sixtieth("worst() that is NONE", x -> x.worst(1, MOST), NONE);
+        sixtieth("count()", x -> x.count(1, 2, SILENT), 14);
+    }
+
+    private static void sixtieth(String what, ToIntFunction<StruckBits> call, int want) {
+        StruckBits x = ending();
+        for (int n = 1; n <= 60; n++) {
+            Due.due(what + ", call " + n, call.applyAsInt(x), want);
+            Due.due(what + ", counted", x.size(2), n);
+        }
+        Due.due(what + ", the 61st", call.applyAsInt(x), FULL);
+        Due.due(what + ", still 60", x.size(2), 60);
+    }
+
+    private static void countUnderChecks() {
+        Due.sentence("16: how many are of a KIND, as CHECKS are");
+        StruckBits x = Due.program(SET, 0, 0, TELL, 0, 0, SET, 0, 0, END, 0, 0);
+        // cell 0 ahead of ticks 0 and 2 is written unread, ahead of 1 read, then written, ahead of 3 struck to the end
+        int[][] kinds = {{24, 0, 0, 0, 0, 8}, {24, 0, 8, 0, 0, 0}, {24, 0, 8, 0, 0, 0}, {16, 0, 8, 0, 0, 8}};
+        for (int check = 0; check < 4; check++) {
+            x.check(0, check);
+            for (int kind = 0; kind < 6; kind++) {
+                Due.due("check " + check + ", kind " + kind, x.count(0, 1, kind), kinds[check][kind]);
+            }
+        }
+        x.check(0, PARITY);
+        Due.due("PARITY, two bits", x.count(0, 2, SILENT), 7);
+        x.check(0, DOUBLE);
+        Due.due("DOUBLE, two bits", x.count(0, 2, CAUGHT), 7);
+        x.check(0, SUM);
+        Due.due("SUM, two bits", x.count(0, 2, CAUGHT), 7);
+        Due.due("SUM, two bits, DEAD", x.count(0, 2, DEAD), 14);
     }
 
     private static void kindsMakeUpAll() {
@@ -713,9 +748,21 @@ public final class BoundaryFlips {
             Due.due("bits 6 and 7 of run " + n, x.worst(2, 7 * n + 6), first + 6);
         }
         Due.due("the last and one", x.worst(1, 8 * runs.length), NONE);
+        Due.due("the first again", x.worst(1, 0), 56);
         Due.due("the last and one, two bits", x.worst(2, 7 * runs.length), NONE);
         x.check(7, DOUBLE);
         Due.due("caught ones are left out", x.worst(2, 0), 0);
+        StruckBits most = new StruckBits();
+        for (int n = 0; n < 12; n++) {
+            most.order(TELL, 7, 0);
+        }
+        for (int again = 0; again < 3; again++) {
+            Due.due("HARM 12 is the greatest", most.worst(1, 0), 56);
+            Due.due("the last of HARM 12", most.worst(1, 7), 63);
+            Due.due("the first of HARM 11", most.worst(1, 8), 64 + 56);
+            Due.due("the last of HARM 1", most.worst(1, 95), 64 * 11 + 63);
+            Due.due("no more", most.worst(1, 96), NONE);
+        }
     }
 
     private static void worstNone() {

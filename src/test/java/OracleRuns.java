@@ -9,6 +9,8 @@ import java.util.Random;
  */
 public final class OracleRuns {
     private static final int[] EDGES = {Integer.MIN_VALUE, -105, -2, -1, 8, 9, 12, 20, 65, 100, 256, Integer.MAX_VALUE};
+    /** An object is used for so many calls; what later ones answer is free. */
+    private static final int MOST_CALLS = 512;
     private static int wrong = 0;
     private static int calls = 0;
     private static final int[] kindsSeen = new int[6];
@@ -41,12 +43,11 @@ public final class OracleRuns {
         Random random = new Random(seed);
         StruckBits real = new StruckBits();
         Plain plain = new Plain();
+        int before = calls;
         writeProgram(random, seed, real, plain);
-        for (int made = 0; made < 370; made++) {
-            same(seed, anyCall(random, plain), real, plain);
-            if (random.nextInt(4) == 0) {
-                same(seed, new int[] {23, 0, 0, 0, 0}, real, plain);
-            }
+        while (calls - before < MOST_CALLS) {
+            int[] digest = {23, 0, 0, 0, 0};
+            same(seed, random.nextInt(5) == 0 ? digest : anyCall(random, plain), real, plain);
         }
     }
 

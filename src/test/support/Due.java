@@ -74,7 +74,7 @@ final class Due {
         }
     }
 
-    /** Every call of the face, at most 330 in all: an object has 512, and the tests need some before. */
+    /** Every call of the face, some 230 in all: an object has 512, and the tests need some before. */
     private static List<Long> tour(StruckBits x) {
         List<Long> found = new ArrayList<>();
         found.add(x.digest());
